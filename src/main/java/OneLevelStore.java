@@ -258,9 +258,9 @@ public final class OneLevelStore {
         if (page != null) {
             return page;
         }
-        page = pages.hold(owner.number, block);
         Place place = drumStore.lowestFree();
-        if (page != null && place != null) {
+        page = place == null ? null : pages.hold(owner.number, block);
+        if (page != null) {
             owner.blocks++;
             place.take(page);
         }
@@ -419,11 +419,12 @@ public final class OneLevelStore {
         }
 
         long takeFirst() {
-            long value = at(0);
-            if (count > 0) {
-                first = cellOf(1);
-                count--;
+            if (count <= 0 || first < 0 || first >= cells.length) {
+                return 0;
             }
+            long value = cells[first];
+            first = cellOf(1);
+            count--;
             return value;
         }
 
