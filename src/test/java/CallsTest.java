@@ -6,12 +6,8 @@ final class CallsTest {
         newObject();
         keys();
         loads();
-        loadRefusals();
-        loadAgainstReserves();
-        loadWithoutPlaces();
         tapes();
         starts();
-        startAgainstReserves();
         runs();
         jobs();
         registersAndWords();
@@ -53,15 +49,6 @@ final class CallsTest {
         DUE.is("below 0", x.word(3, 12), -1);
         DUE.is("the lowest 48", x.word(3, 13), 9);
         DUE.is("the tray is empty then", x.key(1), 1);
-        // More calls than an object is promised for, but the limit of the tray lies beyond them.
-        x = new OneLevelStore(3);
-        for (int i = 1; i <= 1000; i++) {
-            DUE.is("key", x.key(i), i);
-        }
-        DUE.is("key 1001", x.key(5), -1);
-        DUE.is("all of them in three blocks", x.load(0, 511), 3);
-        DUE.is("the last", x.word(0, 1510), 1000);
-        DUE.is("none behind it", x.word(0, 1511), 0);
     }
 
     private static void loads() {
@@ -90,67 +77,6 @@ final class CallsTest {
         DUE.is("place, other", x.place(0, -1), -1);
         DUE.is("place -1", x.place(-1, 0), -1);
         DUE.is("place 64", x.place(64, 0), -1);
-    }
-
-    private static void loadRefusals() {
-        OneLevelStore x = new OneLevelStore(3);
-        x.key(1);
-        x.key(2);
-        DUE.is("job -1", x.load(-1, 0), -1);
-        DUE.is("job 4", x.load(4, 0), -1);
-        DUE.is("address -1", x.load(0, -1), -1);
-        DUE.is("address 1048576", x.load(0, 1048576), -1);
-        DUE.is("address MAX", x.load(0, Integer.MAX_VALUE), -1);
-        DUE.is("not all", x.load(0, 1048575), -1);
-        x.start(2, 0, 5, 5);
-        DUE.is("begun", x.load(2, 0), -1);
-        DUE.is("nothing was done", x.job(0, 4), 0);
-        DUE.is("the tray has all", x.key(3), 3);
-        DUE.is("just all", x.load(0, 1048573), 1);
-        DUE.is("nothing to an address that is none", x.load(0, 1048576), -1);
-        x.run(2);
-        DUE.is("over", x.job(2, 0), 4);
-        DUE.is("a job that is over has begun", x.load(2, 0), -1);
-    }
-
-    private static void loadAgainstReserves() {
-        OneLevelStore x = new OneLevelStore(3);
-        x.start(1, 0, 5, 60);
-        DUE.is("3 of 4", Code.load(x, 2, 511, 1, 2), 2);
-        DUE.is("one more", Code.load(x, 0, 0, 1), 1);
-        DUE.is("2 too many", Code.load(x, 0, 1023, 1, 2), -1);
-        DUE.is("they lie on the tray", x.key(3), 3);
-        DUE.is("on an old block", x.load(0, 0), 1);
-        DUE.is("the 64th, up to its last word", Code.load(x, 0, 1022, 1, 2), 2);
-        DUE.is("the 65th", Code.load(x, 3, 512, 1), -1);
-        x.run(2);
-        DUE.is("1 is over", x.job(1, 0), 4);
-        DUE.is("its 60 are free", x.load(3, 512), 1);
-    }
-
-    /** A job that ends while its block is written leaves a place taken that counts for none. */
-    private static void loadWithoutPlaces() {
-        OneLevelStore x = Scenes.writesAtItsEnd(3);
-        for (int i = 0; i < 61; i++) {
-            x.key(i);
-            x.load(1 + i % 3, 512 * i);
-        }
-        Code.runTo(x, 537);
-        DUE.is("over", x.job(0, 8), 536);
-        DUE.is("the place is not free yet", x.place(0, 0), 0);
-        DUE.is("the 61st place of others", x.place(61, 0), 1);
-        DUE.is("place 62 is free", x.place(62, 0), -1);
-        DUE.is("place 63 is free", x.place(63, 0), -1);
-        DUE.is("blocks of 1", x.job(1, 4), 21);
-        x.key(7);
-        DUE.is("62nd", x.load(1, 51200), 22);
-        x.key(7);
-        DUE.is("63rd", x.load(1, 52224), 23);
-        x.key(7);
-        DUE.is("64th without a place", x.load(1, 53248), -1);
-        Code.runTo(x, 545);
-        DUE.is("64th, when the write has ended", x.load(1, 53248), 24);
-        DUE.is("its place", x.place(0, 1), 104);
     }
 
     private static void tapes() {
@@ -207,22 +133,6 @@ final class CallsTest {
         x.run(2);
         DUE.is("over", x.job(2, 0), 4);
         DUE.no("a job that is over has begun", x.start(2, 0, 1, 1));
-    }
-
-    private static void startAgainstReserves() {
-        OneLevelStore x = new OneLevelStore(3);
-        Code.load(x, 0, 511, 1, 2);
-        Code.load(x, 1, 511, 1, 2);
-        DUE.no("63 and 2", x.start(0, 0, 1, 63));
-        DUE.yes("42 and 2", x.start(0, 0, 1, 42));
-        DUE.no("42, 21 and 2", x.start(2, 0, 1, 21));
-        DUE.yes("42, 20 and 2", x.start(2, 0, 1, 20));
-        DUE.no("42, 20 and 3", x.start(1, 0, 1, 3));
-        DUE.yes("42, 20 and 2", x.start(1, 0, 1, 2));
-        DUE.no("no more", x.start(3, 0, 1, 1));
-        Code.runTo(x, 2000);
-        DUE.is("all over", x.job(0, 0) + x.job(1, 0) + x.job(2, 0), 12);
-        DUE.yes("all are free", x.start(3, 0, 1, 64));
     }
 
     private static void runs() {

@@ -1,15 +1,116 @@
-/** Promises 17 and 19: the printer's order and its ticks, and a job's number that can be had anew. */
+/** Step 5 of a tick, promises 17 and 19: the printer's ticks and order, and a number that can be had anew. */
 final class PrinterTest {
     private static final Due DUE = new Due();
 
     public static void main(String[] args) {
-        order();
+        printerTicks();
+        printerOrder();
+        printerOrderAnew();
+        printerPassesEmptyPapers();
+        latestFirst();
         sameTick();
         nothingToPrint();
-        fourHundredKept();
         forgetsAll();
-        forgetRefusals();
         DUE.end();
+    }
+
+    private static void printerTicks() {
+        DUE.about("When n + 1 is divisible by 40: the PRINTER prints the first word that it has not printed");
+        OneLevelStore x = new OneLevelStore(4);
+        Scenes.fill(x, 1);
+        Code.load(x, 0, 0, Code.of(01066, 0, 0, 0), Code.of(0324, 0, 0, 0), Code.of(01066, 0, 0, 0), Code.END);
+        x.start(0, 0, 10, 1);
+        Code.runTo(x, 79);
+        DUE.is("it is over", x.job(0, 8), 67);
+        DUE.is("none before tick 79", x.clock(4), 0);
+        x.run(1);
+        DUE.is("one in tick 79", x.clock(4), 1);
+        DUE.is("the first", x.printed(0), 0);
+        Code.runTo(x, 119);
+        DUE.is("one still", x.clock(4), 1);
+        x.run(1);
+        DUE.is("two in tick 119", x.clock(4), 2);
+        DUE.is("the second", x.printed(0), Code.of(01066, 0, 0, 0) << 16 >> 16);
+        Code.runTo(x, 200);
+        DUE.is("no more", x.clock(4), 2);
+    }
+
+    /** Puts its number on its paper, twice, and ends. */
+    private static void loadWriter(OneLevelStore x, int job) {
+        Code.load(x, job, 0, Code.of(0324, 0, 0, 4), Code.of(01066, 0, 0, 0), Code.of(01066, 0, 0, 0), Code.END,
+            100 + job);
+    }
+
+    /** The places 1, 2, 3 of the jobs 2, 0, 1 are read in this order; they are over in the ticks 67, 99, 131. */
+    private static void printerOrder() {
+        DUE.about("of the PAPERS of jobs that are over, in the order in which they were over");
+        OneLevelStore x = new OneLevelStore(4);
+        Scenes.fill(x, 1);
+        int[] order = {2, 0, 1};
+        for (int job : order) {
+            loadWriter(x, job);
+            x.start(job, 0, 10, 1);
+        }
+        Code.runTo(x, 132);
+        for (int i = 0; i < 3; i++) {
+            DUE.is("over", x.job(order[i], 8), 67 + 32 * i);
+        }
+        Code.runTo(x, 280);
+        DUE.is("six words", x.clock(4), 6);
+        for (int i = 0; i < 6; i++) {
+            DUE.is("word " + i, x.printed(5 - i), 100 + order[i / 2]);
+        }
+    }
+
+    /** Puts so many multiples of a number on its paper, and ends. */
+    private static void startCounter(OneLevelStore x, int job, int words, int number) {
+        Code.load(x, job, 0, Code.of(0121, 1, 0, words - 1), Code.of(0320, 0, 0, 5), Code.of(01066, 0, 0, 0),
+            Code.of(0203, 127, 1, 1), Code.END, number);
+        x.start(job, 0, 1000, 1);
+    }
+
+    /**
+     * The jobs 0 and 1 are over without a paper, then job 2 with 15 words, which are printed till tick 679; then 0 and 1
+     * begin anew, one after the other, and are over before that.
+     */
+    private static void printerOrderAnew() {
+        DUE.about("in the order in which they were over (a number that was had anew)");
+        OneLevelStore x = new OneLevelStore(4);
+        Scenes.fill(x, 1);
+        x.start(0, -1, 1, 1);
+        x.start(1, -1, 1, 1);
+        startCounter(x, 2, 15, 1);
+        Code.runTo(x, 120);
+        DUE.is("2 is over", x.job(2, 0), 3);
+        DUE.yes("0 is forgotten", x.forget(0));
+        startCounter(x, 0, 2, 100);
+        Code.runTo(x, 400);
+        DUE.is("0 is over", x.job(0, 0), 3);
+        DUE.yes("1 is forgotten", x.forget(1));
+        startCounter(x, 1, 2, 1000);
+        Code.runTo(x, 680);
+        DUE.is("1 is over", x.job(1, 0), 3);
+        DUE.is("all of 2 is printed", x.clock(4), 15);
+        DUE.is("its last", x.printed(0), 15);
+        Code.runTo(x, 1000);
+        long[] due = {2000, 1000, 200, 100, 15, 14};
+        DUE.is("all are printed", x.clock(4), 19);
+        for (int i = 0; i < due.length; i++) {
+            DUE.is("printed " + i, x.printed(i), due[i]);
+        }
+    }
+
+    private static void printerPassesEmptyPapers() {
+        DUE.about("the first word that it has not printed of the PAPERS of jobs that are over");
+        OneLevelStore x = new OneLevelStore(4);
+        x.start(0, -1, 10, 1);
+        x.start(1, -1, 10, 1);
+        loadWriter(x, 2);
+        x.start(2, 0, 10, 1);
+        Code.runTo(x, 320);
+        DUE.is("two without a paper are over", x.job(0, 0) + x.job(1, 0), 8);
+        DUE.is("the third is printed", x.printed(0), 102);
+        DUE.is("one", x.clock(4), 1);
     }
 
     /** Puts the words 1, 2, .. on its paper, and ends. */
@@ -19,7 +120,8 @@ final class PrinterTest {
     }
 
     /** Job 1 is over in tick 95, with 10 words; job 0 in tick 290, with one. */
-    private static void order() {
+    private static void latestFirst() {
+        DUE.about("The i-th latest word that the PRINTER printed (0: the latest)");
         OneLevelStore x = new OneLevelStore(4);
         Code.load(x, 0, 0, Code.of(0324, 0, 0, 3), Code.of(01066, 0, 0, 0), Code.END, 77);
         loadCounter(x, 1, 10);
@@ -55,6 +157,7 @@ final class PrinterTest {
 
     /** The job is over in tick 319, the printer prints in it. */
     private static void sameTick() {
+        DUE.about("3. The READY job has ENDED by it. 5. the PRINTER prints the first word");
         OneLevelStore x = new OneLevelStore(4);
         Code.load(x, 0, 0, Code.of(01066, 0, 0, 0), Code.of(0121, 1, 0, 28), Code.of(0203, 127, 1, 2), Code.END);
         x.start(0, 0, 100, 1);
@@ -66,6 +169,7 @@ final class PrinterTest {
     }
 
     private static void nothingToPrint() {
+        DUE.about("A job that is over, and the whole PAPER of which was printed (it has none)");
         OneLevelStore x = new OneLevelStore(4);
         x.start(0, -1, 100, 1);
         x.run(1);
@@ -76,20 +180,8 @@ final class PrinterTest {
         DUE.is("nothing", x.printed(0), 0);
     }
 
-    private static void fourHundredKept() {
-        OneLevelStore x = new OneLevelStore(4);
-        for (int job = 0; job < 3; job++) {
-            loadCounter(x, job, 200);
-            x.start(job, 0, 10000, 1);
-        }
-        Code.runTo(x, 30000);
-        DUE.is("all", x.clock(4), 600);
-        DUE.is("the latest", x.printed(0), 200);
-        DUE.is("before the job before", x.printed(399), 1);
-        DUE.is("one more is not kept", x.printed(400), 0);
-    }
-
     private static void forgetsAll() {
+        DUE.about("has not begun, as at first (its number can be had anew): true");
         OneLevelStore x = new OneLevelStore(4);
         Code.tape(x, 2, 5, 6);
         Code.load(x, 2, 0, Code.of(0121, 9, 0, 8), Code.of(01050, 0, 0, 0), Code.of(0172, 0, 0, 1),
@@ -118,17 +210,5 @@ final class PrinterTest {
         DUE.is("printed", x.printed(0), 2);
         DUE.is("three", x.clock(4), 3);
         DUE.yes("forgotten again", x.forget(2));
-    }
-
-    private static void forgetRefusals() {
-        OneLevelStore x = new OneLevelStore(4);
-        DUE.no("no job", x.forget(-1));
-        DUE.no("no job", x.forget(4));
-        DUE.no("not begun", x.forget(0));
-        x.start(0, 0, 1, 1);
-        DUE.no("ready", x.forget(0));
-        x.run(1);
-        DUE.no("waits", x.forget(0));
-        DUE.is("and waits still", x.job(0, 0), 2);
     }
 }

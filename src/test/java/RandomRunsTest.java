@@ -1,15 +1,20 @@
 import java.util.Random;
 
-/** Compares the class with the plain model, after every call of many runs that a fixed seed tells. */
+/**
+ * Compares the class with the plain model in many runs that a fixed seed tells. Each object has the 512 calls that the
+ * document promises, and no more: some do things, the others ask, at random.
+ */
 final class RandomRunsTest {
-    private static final int RUNS = 400;
-    private static final int CALLS = 60;
+    private static final int RUNS = 2500;
+    private static final int CALLS = 512;
+    private static final int ASKS_BETWEEN = 4;
     private static final int MOST_WRONG = 20;
 
     private final Due due = new Due();
     private Random random;
     private OneLevelStore x;
     private PlainModel model;
+    private int left;
     private String where;
 
     public static void main(String[] args) {
@@ -27,12 +32,28 @@ final class RandomRunsTest {
         int frames = random.nextInt(3) == 0 ? random.nextInt(20) - 1 : 3 + random.nextInt(4);
         x = new OneLevelStore(frames);
         model = new PlainModel(frames);
-        for (int i = 0; i < CALLS && due.wrong() < MOST_WRONG; i++) {
-            where = "seed " + seed + ", call " + i + ": ";
+        left = CALLS;
+        where = "seed " + seed + ": ";
+        int kept = random.nextBoolean() ? 40 : 200;
+        while (left > kept && due.wrong() < MOST_WRONG) {
             oneCall();
-            compareJobs();
-            compareStores();
+            for (int i = random.nextInt(ASKS_BETWEEN); i > 0; i--) {
+                ask();
+            }
         }
+        while (left > 0 && due.wrong() < MOST_WRONG) {
+            ask();
+        }
+    }
+
+    /** Counts a call, unless all are used up. */
+    private boolean may() {
+        left--;
+        return left >= 0;
+    }
+
+    private void compare(String call, long got, long want) {
+        due.is(where + call + " (" + left + " calls left)", got, want);
     }
 
     private void oneCall() {
@@ -50,27 +71,43 @@ final class RandomRunsTest {
                 break;
             case 4:
             case 5:
-                due.is(where + "forget " + job, x.forget(job) ? 1 : 0, model.forget(job) ? 1 : 0);
+                forget(job);
                 break;
             case 6:
-                runSome(random.nextInt(4));
+                run(random.nextInt(4));
                 break;
             case 7:
-                runSome(random.nextInt(40) == 0 ? random.nextInt() : 1000 + random.nextInt(1001));
+                run(random.nextInt(40) == 0 ? random.nextInt() : 1000 + random.nextInt(1001));
                 break;
             default:
-                runSome(random.nextInt(random.nextBoolean() ? 40 : 500));
+                run(random.nextInt(random.nextBoolean() ? 40 : 500));
                 break;
         }
     }
 
-    private void runSome(int n) {
-        due.is(where + "run " + n, x.run(n), model.run(n));
+    private void run(int n) {
+        if (may()) {
+            compare("run " + n, x.run(n), model.run(n));
+        }
+    }
+
+    private void forget(int job) {
+        if (may()) {
+            compare("forget " + job, x.forget(job) ? 1 : 0, model.forget(job) ? 1 : 0);
+        }
+    }
+
+    private void load(int job, int address) {
+        if (may()) {
+            compare("load " + job + " " + address, x.load(job, address), model.load(job, address));
+        }
     }
 
     private void keyWords(long... words) {
         for (long word : words) {
-            due.is(where + "key", x.key(word), model.key(word));
+            if (may()) {
+                compare("key", x.key(word), model.key(word));
+            }
         }
     }
 
@@ -78,66 +115,86 @@ final class RandomRunsTest {
         int blocks = 1 + random.nextInt(12);
         int origin = 512 * random.nextInt(3) + random.nextInt(2) * 500;
         keyWords(new RandomProgram(random, blocks, origin).words());
-        due.is(where + "load " + job + " " + origin, x.load(job, origin), model.load(job, origin));
-        if (random.nextBoolean()) {
+        load(job, origin);
+        if (random.nextInt(4) == 0) {
             loadWords(job);
         }
         int limit = random.nextInt(5) == 0 ? random.nextInt(300) - 5 : 1 + random.nextInt(1000000);
-        int may = random.nextInt(8) == 0 ? random.nextInt(70) - 1 : blocks + 1 + random.nextInt(6);
-        due.is(where + "start " + job, x.start(job, origin, limit, may) ? 1 : 0,
-            model.start(job, origin, limit, may) ? 1 : 0);
+        int most = random.nextInt(8) == 0 ? random.nextInt(70) - 1 : blocks + 1 + random.nextInt(6);
+        if (may()) {
+            compare("start " + job, x.start(job, origin, limit, most) ? 1 : 0,
+                model.start(job, origin, limit, most) ? 1 : 0);
+        }
     }
 
     private void loadWords(int job) {
-        int count = random.nextInt(10) == 0 ? random.nextInt(600) : random.nextInt(20);
+        int count = random.nextInt(30) == 0 ? random.nextInt(150) : random.nextInt(6);
         for (int i = 0; i < count; i++) {
             keyWords(random.nextBoolean() ? random.nextLong() : random.nextInt(2000) - 700);
         }
-        int address = random.nextInt(8) == 0 ? 1048576 - random.nextInt(40) : random.nextInt(6000);
-        due.is(where + "load " + job + " " + address, x.load(job, address), model.load(job, address));
+        load(job, random.nextInt(8) == 0 ? 1048576 - random.nextInt(10) : random.nextInt(6000));
     }
 
     private void tapeWords(int job) {
-        int count = random.nextInt(40);
+        int count = random.nextInt(10);
         for (int i = 0; i < count; i++) {
             keyWords(random.nextLong() >> random.nextInt(64));
         }
-        due.is(where + "tape " + job, x.tape(job), model.tape(job));
-    }
-
-    private void compareJobs() {
-        for (int j = -1; j <= 4; j++) {
-            for (int what = -1; what <= 9; what++) {
-                due.is(where + "job " + j + " " + what, x.job(j, what), model.job(j, what));
-            }
-            for (int b = -1; b <= 6; b++) {
-                due.is(where + "register " + j + " " + b, x.register(j, b), model.register(j, b));
-            }
-            due.is(where + "register " + j + " 127", x.register(j, 127), model.register(j, 127));
-            due.is(where + "accumulator " + j, x.accumulator(j), model.accumulator(j));
-            for (int i = 0; i < 20; i++) {
-                int address = random.nextInt(7000);
-                due.is(where + "word " + j + " " + address, x.word(j, address), model.word(j, address));
-                due.is(where + "paper " + j + " " + i, x.paper(j, i - 1), model.paper(j, i - 1));
-            }
+        if (may()) {
+            compare("tape " + job, x.tape(job), model.tape(job));
         }
     }
 
-    private void compareStores() {
-        for (int i = -1; i <= 16; i++) {
-            for (int what = -1; what <= 7; what++) {
-                due.is(where + "frame " + i + " " + what, x.frame(i, what), model.frame(i, what));
-            }
-            due.is(where + "queued " + i, x.queued(i), model.queued(i));
-            due.is(where + "drum " + i, x.drum(i), model.drum(i));
-            due.is(where + "clock " + i, x.clock(i), model.clock(i));
-            due.is(where + "printed " + i, x.printed(i), model.printed(i));
+    /** A number from 0 on, or one on either side of that, or any at all. */
+    private int number(int below) {
+        return random.nextInt(200) == 0 ? random.nextInt() : random.nextInt(below + 2) - 1;
+    }
+
+    private void ask() {
+        if (!may()) {
+            return;
         }
-        for (int i = -1; i <= 66; i++) {
-            for (int what = -1; what <= 2; what++) {
-                due.is(where + "place " + i + " " + what, x.place(i, what), model.place(i, what));
-            }
-            due.is(where + "chosen " + i, x.chosen(i), model.chosen(i));
+        if (random.nextBoolean()) {
+            askOfJob(number(4));
+        } else {
+            askOfStores();
+        }
+    }
+
+    private void askOfJob(int j) {
+        int i = number(20);
+        int address = random.nextInt(7000);
+        switch (random.nextInt(8)) {
+            case 0: compare("register " + j + " " + i, x.register(j, i), model.register(j, i)); break;
+            case 1: compare("register " + j + " 127", x.register(j, 127), model.register(j, 127)); break;
+            case 2: compare("accumulator " + j, x.accumulator(j), model.accumulator(j)); break;
+            case 3: compare("word " + j + " " + address, x.word(j, address), model.word(j, address)); break;
+            case 4: compare("paper " + j + " " + i, x.paper(j, i), model.paper(j, i)); break;
+            default:
+                int what = number(9);
+                compare("job " + j + " " + what, x.job(j, what), model.job(j, what));
+                break;
+        }
+    }
+
+    private void askOfStores() {
+        int i = number(5);
+        int what = number(7);
+        switch (random.nextInt(9)) {
+            case 0: compare("queued " + i, x.queued(i), model.queued(i)); break;
+            case 1: compare("chosen " + i, x.chosen(i), model.chosen(i)); break;
+            case 2: compare("printed " + i, x.printed(i), model.printed(i)); break;
+            case 3: compare("clock " + what, x.clock(what), model.clock(what)); break;
+            case 4: compare("drum " + what, x.drum(what), model.drum(what)); break;
+            case 5:
+            case 6:
+                int place = random.nextInt(3) == 0 ? number(64) : number(16);
+                compare("place " + place + " " + i, x.place(place, i % 3), model.place(place, i % 3));
+                break;
+            default:
+                int frame = random.nextInt(4) == 0 ? number(16) : number(4);
+                compare("frame " + frame + " " + what, x.frame(frame, what), model.frame(frame, what));
+                break;
         }
     }
 }
