@@ -27,6 +27,7 @@ final class CallEdgeTest {
         forgetRefuses();
         forgetLeavesNothing();
         forgetManyTimes();
+        forgetLeavesOthers();
         last512thCall();
         DUE.end();
     }
@@ -40,7 +41,7 @@ final class CallEdgeTest {
     }
 
     private static void tapeBehindTape() {
-        DUE.about("The words on the TRAY (which is empty then) come behind those on the TAPE of a job that is not over");
+        DUE.about("The words on the TRAY come behind those on the TAPE of a job that is not over");
         OneLevelStore x = Lone.begun(100, 1, Code.of(01050, 0, 0, 0), Code.of(01066, 0, 0, 0), Code.jump(0));
         DUE.is("one that is READY", Code.tape(x, 0, 1, 2), 2);
         x.run(1);
@@ -273,20 +274,56 @@ final class CallEdgeTest {
         DUE.is("no word of before", x.register(0, 5), 0);
     }
 
-    /** Each time one word is printed; the printer goes on though more than four jobs were over. */
+    private static void startWriter(OneLevelStore x, int job, long word) {
+        Code.load(x, job, 0, Code.of(0324, 0, 0, 3), Code.of(01066, 0, 0, 0), Code.END, word);
+        DUE.yes("begins", x.start(job, 0, 10, 1));
+    }
+
+    /** Each time one word is printed; at last all four jobs have one at the same time. */
     private static void forgetManyTimes() {
         DUE.about("(its number can be had anew)");
-        OneLevelStore x = new OneLevelStore(3);
+        OneLevelStore x = new OneLevelStore(6);
         for (int i = 0; i < 10; i++) {
             int job = i % 2 == 0 ? 1 : 3;
-            Code.load(x, job, 0, Code.of(0324, 0, 0, 3), Code.of(01066, 0, 0, 0), Code.END, 500 + i);
-            DUE.yes("begins", x.start(job, 0, 10, 1));
+            startWriter(x, job, 500 + i);
             x.run(400);
             DUE.is("ended", x.job(job, 0), 3);
             DUE.is("printed", x.printed(0), 500 + i);
             DUE.is("so many", x.clock(4), i + 1);
             DUE.yes("forgotten", x.forget(job));
         }
+        for (int job = 0; job < 4; job++) {
+            startWriter(x, job, 600 + job);
+        }
+        x.run(1000);
+        DUE.is("all are printed", x.clock(4), 14);
+        DUE.is("one of each", x.printed(0) + x.printed(1) + x.printed(2) + x.printed(3), 2406);
+        for (int job = 0; job < 4; job++) {
+            DUE.yes("forgotten", x.forget(job));
+        }
+    }
+
+    /** Job 2 has three words; one is printed in tick 79, two are not when the others are over, and forgotten. */
+    private static void forgetLeavesOthers() {
+        DUE.about("has not begun, as at first: true (no other has)");
+        OneLevelStore x = new OneLevelStore(4);
+        Code.load(x, 3, 0, 1);
+        Code.load(x, 2, 0, Code.of(0324, 0, 0, 5), Code.of(01066, 0, 0, 0), Code.of(01066, 0, 0, 0),
+            Code.of(01066, 0, 0, 0), Code.END, 8);
+        x.start(2, 0, 10, 1);
+        Code.runTo(x, 90);
+        x.start(0, -1, 1, 1);
+        x.start(1, -1, 1, 1);
+        x.run(2);
+        DUE.yes("the second that was over", x.forget(0));
+        DUE.yes("the last that was over", x.forget(1));
+        DUE.is("the first is over still", x.job(2, 8), 68);
+        DUE.is("its paper", x.paper(2, 2), 8);
+        Code.runTo(x, 160);
+        DUE.is("it is printed", x.clock(4), 3);
+        DUE.is("its word", x.printed(0), 8);
+        DUE.yes("then it is forgotten", x.forget(2));
+        DUE.is("job 3 has its word", x.word(3, 0), 1);
     }
 
     private static void last512thCall() {

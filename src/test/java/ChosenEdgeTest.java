@@ -25,8 +25,8 @@ final class ChosenEdgeTest {
     }
 
     /**
-     * X is in frame 1, Y in frame 2, the code in frame 0 (t and L 0); block 3 has the last frame, the first thing in the
-     * last window. Before that X and Y are to have these t and L.
+     * X is in frame 1, Y in frame 2, the code in frame 0 (t and L 0); block 3 has the last frame, the first thing in
+     * the last window. Before that X and Y are to have these t and L.
      */
     private static void chosen(int due, int[] idle, String... windows) {
         OneLevelStore x = Schedule.begun(4, windows);
@@ -136,8 +136,8 @@ final class ChosenEdgeTest {
     }
 
     /**
-     * Frame 0 is of job 2, and FRESH since tick 384; frame 1 is of job 1, which goes round from tick 288 on. The look in
-     * tick 414 leaves frame 0 with t 1, frame 1 with t 0. In tick 421 job 0 has the last frame.
+     * Frame 0 is of job 2, and FRESH since tick 384; frame 1 is of job 1, which goes round from tick 288 on. The look
+     * in tick 414 leaves frame 0 with t 1, frame 1 with t 0. In tick 421 job 0 has the last frame.
      */
     private static void freshOneWithGreaterTStays() {
         DUE.about("of the frames IN USE that are not FRESH (whatever their t)");

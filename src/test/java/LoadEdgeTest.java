@@ -112,8 +112,8 @@ final class LoadEdgeTest {
         DUE.is("no place", x.place(2, 0), -1);
         DUE.is("its address is none", x.load(0, 1048576), -1);
         x = Scenes.ownBlocks(64);
-        DUE.is("no more than 64, in a block that it has not", x.load(3, 512), 64);
-        DUE.is("nor another job", x.load(0, 512), 0);
+        DUE.is("no more than 64, in a block that it has not", x.load(3, 600), 64);
+        DUE.is("nor of another job, which has none", x.load(0, 600), 0);
     }
 
     private static void loadEmptiesTheTray() {
@@ -203,7 +203,8 @@ final class LoadEdgeTest {
 
     private static void loadTooManyWithOthersNotBegun() {
         DUE.about("BLOCKS of jobs that have not begun would be more than 64");
-        REFUSALS.check("63 and two new", () -> Scenes.othersNotBegun(7, 8), -1, x -> x.load(3, 5119), x -> x.load(0, 51199));
+        REFUSALS.check("63 and two new", () -> Scenes.othersNotBegun(7, 8), -1, x -> x.load(3, 5119),
+            x -> x.load(0, 51199));
         OneLevelStore x = Scenes.othersNotBegun(7);
         DUE.is("63 and one new", x.load(0, 51200), 21);
         x.key(8);
@@ -213,7 +214,8 @@ final class LoadEdgeTest {
 
     private static void loadTooManyWithOthersBegun() {
         DUE.about("and those that the others which are not over may have, would be more than 64");
-        REFUSALS.check("63 and two new", () -> Scenes.othersBegun(7, 8), -1, x -> x.load(3, 5119), x -> x.load(1, 5119));
+        REFUSALS.check("63 and two new", () -> Scenes.othersBegun(7, 8), -1, x -> x.load(3, 5119),
+            x -> x.load(1, 5119));
         OneLevelStore x = Scenes.othersBegun(7);
         DUE.is("63 and one new", x.load(3, 5119), 4);
         x.key(8);
@@ -245,7 +247,8 @@ final class LoadEdgeTest {
 
     private static void loadWithoutPlaces() {
         DUE.about("NONE, doing nothing: fewer places are free than are new");
-        REFUSALS.check("63 and a new one", LoadEdgeTest::withoutPlaces, -1, x -> x.load(3, 60000), x -> x.load(2, 60000));
+        REFUSALS.check("63 and a new one", LoadEdgeTest::withoutPlaces, -1, x -> x.load(3, 60000),
+            x -> x.load(2, 60000));
         OneLevelStore x = withoutPlaces();
         DUE.is("into an old one", x.load(1, 51201), 23);
         DUE.is("its word", x.word(1, 51201), 9);

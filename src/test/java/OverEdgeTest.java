@@ -21,7 +21,7 @@ final class OverEdgeTest {
         DUE.end();
     }
 
-    /** Job 1 goes round in frame 1; job 0 uses its blocks 0, 1, 2 in the frames 0, 2, 3 from tick 288 on, to tick 292. */
+    /** Job 1 goes round in frame 1; job 0 uses its blocks 0, 1, 2 in the frames 0, 2, 3, in the ticks 288 to 292. */
     private static OneLevelStore beside(long last) {
         OneLevelStore x = new OneLevelStore(6);
         Code.load(x, 0, 0, Code.of(0324, 0, 0, 512), Code.of(0324, 0, 0, 1024), last);
@@ -190,7 +190,7 @@ final class OverEdgeTest {
         DUE.drum("it counts", x, -1, -1, -1, -1, 0, 1, 1);
     }
 
-    /** Its number begins anew in tick 537, with a block of its own at place 1, and waits for it while the WRITE ENDS. */
+    /** Its number begins anew in tick 537, with a block at place 1, and waits for that while the WRITE ENDS. */
     private static void numberBegunAnew() {
         DUE.about("it ENDS as that of a job that is over, also when its number has begun anew");
         OneLevelStore x = Scenes.writesAtItsEnd(8);

@@ -7,6 +7,7 @@ final class PrinterTest {
         printerOrder();
         printerOrderAnew();
         printerPassesEmptyPapers();
+        printerPassesJobsThatAreNotOver();
         latestFirst();
         sameTick();
         nothingToPrint();
@@ -70,8 +71,8 @@ final class PrinterTest {
     }
 
     /**
-     * The jobs 0 and 1 are over without a paper, then job 2 with 15 words, which are printed till tick 679; then 0 and 1
-     * begin anew, one after the other, and are over before that.
+     * The jobs 0 and 1 are over without a paper, then job 2 with 15 words, which are printed till tick 679; then 0 and
+     * 1 begin anew, one after the other, and are over before that.
      */
     private static void printerOrderAnew() {
         DUE.about("in the order in which they were over (a number that was had anew)");
@@ -111,6 +112,23 @@ final class PrinterTest {
         DUE.is("two without a paper are over", x.job(0, 0) + x.job(1, 0), 8);
         DUE.is("the third is printed", x.printed(0), 102);
         DUE.is("one", x.clock(4), 1);
+    }
+
+    /** Its number was over before, without a paper; now it has a word on it, and goes round. */
+    private static void printerPassesJobsThatAreNotOver() {
+        DUE.about("of the PAPERS of jobs that are over (not of others)");
+        OneLevelStore x = new OneLevelStore(4);
+        x.start(0, -1, 10, 1);
+        x.run(1);
+        DUE.yes("forgotten", x.forget(0));
+        Code.load(x, 0, 0, Code.of(01066, 0, 0, 0), Code.jump(1));
+        x.start(0, 0, 1000, 1);
+        Code.runTo(x, 1000);
+        DUE.is("a word is on its paper", x.job(0, 6), 1);
+        DUE.is("none is printed", x.clock(4), 0);
+        Code.runTo(x, 1320);
+        DUE.is("it has failed", x.job(0, 1), 7);
+        DUE.is("one is printed", x.clock(4), 1);
     }
 
     /** Puts the words 1, 2, .. on its paper, and ends. */
