@@ -465,15 +465,17 @@ public final class OneLevelStore {
             block = newBlock;
             if (words == null) {
                 words = new long[BLOCK_WORDS];
-            } else {
-                Arrays.fill(words, 0L);
             }
         }
 
+        /** All 0 from here on, so that the next block that it holds begins so. */
         void release() {
             owner = NONE;
             frame = null;
             place = null;
+            if (words != null) {
+                Arrays.fill(words, 0L);
+            }
         }
 
         boolean isInUse() {

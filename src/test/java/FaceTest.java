@@ -5,7 +5,6 @@ import java.lang.reflect.Method;
 import java.lang.reflect.Modifier;
 import java.nio.file.Files;
 import java.nio.file.Path;
-import java.util.Arrays;
 import java.util.Set;
 import java.util.TreeSet;
 import java.util.regex.Matcher;
@@ -21,6 +20,8 @@ final class FaceTest {
         "int clock(int)", "boolean forget(int)");
     private static final Pattern FORBIDDEN = Pattern.compile("\\b(throw|throws|try|catch|synchronized|assert"
         + "|protected|package|volatile|native|double|float|\\w+Exact)\\b|->|::");
+    private static final Pattern LIBRARY = Pattern.compile("\\b(?:Arrays|Math|Integer|Long|System)\\.\\w+");
+    private static final Set<String> LIBRARY_USED = Set.of("Arrays.fill", "Math.max", "Math.min", "Long.bitCount");
     private static final int MOST_LINES = 60;
     private static final int MOST_PARAMETERS = 7;
     private static final int MOST_CLASSES = 12;
@@ -53,6 +54,7 @@ final class FaceTest {
                 open.add(told(method));
             } else if (!method.isSynthetic()) {
                 DUE.yes(method + " is private", Modifier.isPrivate(method.getModifiers()));
+                DUE.no(method + " bears a public name", publicNames().contains(method.getName()));
             }
         }
         DUE.yes("the methods of the face: " + open, open.equals(FACE));
@@ -65,23 +67,38 @@ final class FaceTest {
         DUE.yes("of an int", made[0].toString().equals("public OneLevelStore(int)"));
     }
 
-    private static void classes() {
+    private static Set<String> publicNames() {
         Set<String> names = new TreeSet<>();
         for (Method method : OneLevelStore.class.getMethods()) {
             names.add(method.getName());
         }
+        return names;
+    }
+
+    private static void classes() {
         Class<?>[] inside = OneLevelStore.class.getDeclaredClasses();
         DUE.yes("few classes", inside.length < MOST_CLASSES);
+        fields(OneLevelStore.class);
         for (Class<?> type : inside) {
             DUE.yes(type + " is static", Modifier.isStatic(type.getModifiers()));
-            long fields = Arrays.stream(type.getDeclaredFields())
-                .filter(field -> !Modifier.isStatic(field.getModifiers())).count();
-            DUE.yes(type + " has few fields", fields <= MOST_FIELDS);
+            fields(type);
             for (Method method : type.getDeclaredMethods()) {
-                DUE.no(method + " bears a public name", names.contains(method.getName()));
+                DUE.no(method + " bears a public name", publicNames().contains(method.getName()));
                 DUE.yes(method + " takes few", method.getParameterCount() <= MOST_PARAMETERS);
             }
         }
+    }
+
+    private static void fields(Class<?> type) {
+        int count = 0;
+        for (Field field : type.getDeclaredFields()) {
+            if (Modifier.isStatic(field.getModifiers())) {
+                DUE.yes(field + " is final", Modifier.isFinal(field.getModifiers()));
+            } else {
+                count++;
+            }
+        }
+        DUE.yes(type + " has few fields", count <= MOST_FIELDS);
     }
 
     private static void words(String text) {
@@ -89,6 +106,10 @@ final class FaceTest {
         Matcher matcher = FORBIDDEN.matcher(bare);
         while (matcher.find()) {
             DUE.no("the text has " + matcher.group(), true);
+        }
+        Matcher library = LIBRARY.matcher(bare);
+        while (library.find()) {
+            DUE.yes(library.group() + " is one of " + LIBRARY_USED, LIBRARY_USED.contains(library.group()));
         }
         DUE.is("imports", bare.split("\nimport |^import ").length - 1, 1);
         DUE.yes("of Arrays alone", bare.contains("import java.util.Arrays;"));
